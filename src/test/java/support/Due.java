@@ -60,7 +60,7 @@ final class Due {
     }
   }
 
-  /** The THINGS of a PASSENGER as one number, and its BANK behind the point. */
+  /** The THINGS of a PASSENGER and its BANK, as four figures. */
   static int life(FerryChange x, int i) {
     int sum = 0;
     for (int what = 1; what <= 4; what++) {
