@@ -66,6 +66,11 @@ public final class AsideTest {
     x.row(1, 0);
     due.is("no ints", x.run(0, 1), 0);
     due.is("LIFE as it is", x.asked(), 523);
+    Due.row(x, 1, 6, 6, 99);
+    x.row(1, 1);
+    Due.row(x, 1, 6, 6);
+    due.is("6, and what was behind it is gone", x.run(0, 1), 2);
+    due.is("its LIFE", x.asked(), 521);
     Due.row(x, 1, 6, 7);
     due.finds(x, "7", x.run(0, 1), UNLIKE);
     Due.row(x, 1, -1, 6);

@@ -24,6 +24,8 @@ public final class ChancesTest {
     due.parts(x, "there and back", x.odds(3, 0, 0), 0, 1);
     due.parts(x, "one of two", x.odds(0, 0, 6), 1, 2);
     due.parts(x, "one of two, 1 of 12", x.odds(0, 0, 1), 11, 72);
+    Due.row(x, 0, 6);
+    due.parts(x, "the last DECLARATION", x.odds(0, 0, 0), 1, 1);
     Due.row(x, 0, 0);
     due.parts(x, "None", x.odds(0, 0, 0), 0, 1);
     due.parts(x, "a CLERK by None", x.odds(5, 0, 4), 2, 3);

@@ -58,6 +58,9 @@ public final class PassengersTest {
     due.is("a SAILOR as a BRIDE, odd", x.mark(4, 1), 1);
     due.is("a SAILOR, odd", x.mark(4, 4), 1);
     due.is("a CLERK on the other BANK", x.mark(5, 5), 1);
+    x.cross(0, 0);
+    due.is("a SAILOR as a BRIDE, even again", x.mark(4, 1), 2);
+    due.is("a SAILOR, even again", x.mark(4, 4), 0);
     x.set(3, 0, 1);
     due.is("the first that is least", x.mark(3, 3), 0);
     x.set(3, 2, 0);

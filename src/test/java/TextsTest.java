@@ -66,6 +66,7 @@ public final class TextsTest {
     faultIs(due, "p000", 4);
     faultIs(due, "  p000", 6);
     faultIs(due, "p0000 b000", 10);
+    faultIs(due, "p0000 b", 7);
     faultIs(due, "p000 ", 4);
     faultIs(due, "p 0000", 1);
     faultIs(due, "p0 000", 2);

@@ -63,6 +63,8 @@ public final class WhoTest {
     kindsAre(due, x, 63, 0, 10);
     kindsAre(due, x, 0, 0, 9);
     kindsAre(due, x, 1 + 8, 1, 11);
+    Due.row(x, 1, 1, 11, 99);
+    kindsAre(due, x, 1, 6, 9);
     kindsAre(due, x, 2 + 16, 1, 12);
     kindsAre(due, x, 4 + 32, 1, 10);
     kindsAre(due, x, 4 + 32, 2, 11);
