@@ -492,21 +492,11 @@ public final class FerryChange {
     // ---- 7 chances, lots
 
     public int odds(int i, int r, int p) {
-        int refusal = refusalOfChances(i, r, p);
-        if (refusal != ACCEPTED) {
-            return refusal;
-        }
-        tellChances(i, rows[r], p, true);
-        return 1;
+        return answerChances(i, r, p, true);
     }
 
     public int mid(int i, int r, int p) {
-        int refusal = refusalOfChances(i, r, p);
-        if (refusal != ACCEPTED) {
-            return refusal;
-        }
-        tellChances(i, rows[r], p, false);
-        return 1;
+        return answerChances(i, r, p, false);
     }
 
     public int lots(int n, int seed) {
@@ -670,13 +660,6 @@ public final class FerryChange {
             }
         }
         return ACCEPTED;
-    }
-
-    private int refusalOfChances(int i, int r, int p) {
-        if (!isPassenger(i) || !isRow(r) || p < 0 || p > TWELVE) {
-            return BAD;
-        }
-        return refusalOfRow(rows[r], 1, 6, 0, DECLARATIONS - 1);
     }
 
     // ---- texts that are ferries
@@ -889,6 +872,18 @@ public final class FerryChange {
 
     private boolean isBoat(int boat, int inBoat, int set, int load) {
         return (boat & inBoat) != 0 && (boat & ~set) == 0 && ferry.weightOfSet(boat) <= load;
+    }
+
+    private int answerChances(int i, int r, int p, boolean byBank) {
+        if (!isPassenger(i) || !isRow(r) || p < 0 || p > TWELVE) {
+            return BAD;
+        }
+        int refusal = refusalOfRow(rows[r], 1, 6, 0, DECLARATIONS - 1);
+        if (refusal != ACCEPTED) {
+            return refusal;
+        }
+        tellChances(i, rows[r], p, byBank);
+        return 1;
     }
 
     /** Goes through all sets of DECLARATIONS that are believed, each with its share of 12 to the size. */

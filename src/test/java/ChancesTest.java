@@ -117,6 +117,9 @@ public final class ChancesTest {
   }
 
   private static void lotsRefused(Due due) {
+    FerryChange alone = Due.ferry("c5551");
+    alone.lots(5, 1);
+    due.is("lots of one alone", alone.count(2), 5);
     FerryChange none = new FerryChange();
     due.is("no PASSENGERS", none.lots(1, 1), -4);
     due.is("BAD ahead", none.lots(0, 1), -1);

@@ -36,6 +36,9 @@ public final class WeightTest {
     boatsAre(due, heavy, 28, 3, 1);
     boatsAre(due, heavy, 55, 2, 1);
     boatsAre(due, heavy, 83, 1, 7);
+    FerryChange alone = Due.ferry("b1230");
+    boatsAre(due, alone, 7, 1, 1);
+    due.is("a BRIDE is 1 heavier", alone.boats(6), -9);
     FerryChange first = Due.ferry("p9990 p1000");
     due.is("the first one is too heavy", first.boats(26), -9);
     FerryChange late = Due.ferry("p2000 p8000 p9000 p1000");

@@ -100,9 +100,11 @@ public final class WhoTest {
     nextIs(due, edge, 1, 2);
     // Those who came to 15: a PASSENGER and a WIDOWER, told apart by THING 0, less.
     nextIs(due, edge, 2, 1, 1, 15);
+    FerryChange most = Due.ferry("p9990");
+    nextIs(due, most, 2, 2);
     Due.row(edge, 1, 1, 27);
     due.is("no KIND", edge.next(0, 1), -9);
-    due.is("asked stays", edge.asked(), 27 - 27);
+    due.is("asked stays", edge.asked(), 0);
     due.told(edge, "asked", edge.at(1, 1), 27);
     due.is("no KIND", edge.next(0, 1), -9);
     due.is("asked stays", edge.asked(), 27);
