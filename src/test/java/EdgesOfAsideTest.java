@@ -315,8 +315,13 @@ public final class EdgesOfAsideTest {
     }
   }
 
-  /** "UNLIKE": not -1 .. 9, at each place. */
+  /** "UNLIKE": not -1 .. 9, at each place; what was behind the third is gone. */
   private static void fewestUnlike(Due due) {
+    Edge gone = Edge.ferryAnd(due, "p0000", x -> {
+      Due.row(x, 0, 0, 0, 0, 99);
+      x.row(0, 3);
+    });
+    gone.taken("fewest by 3 ints that were 4", 0, x -> x.fewest(0, 0, -1, 1));
     for (int place = 0; place <= 2; place++) {
       int at = place;
       for (int v : Edge.outside(-1, 9)) {

@@ -13,6 +13,7 @@ public final class EdgesOfChancesTest {
     midEnds(due);
     chancesSizes(due);
     chancesUnlike(due);
+    whatWasBehindIsGone(due);
     chancesRefused(due);
     lotsNumbers(due);
     lotsSeeds(due);
@@ -161,6 +162,20 @@ public final class EdgesOfChancesTest {
         e.finds("odds by " + c + " at " + place, Edge.UNLIKE, x -> x.odds(0, 0, 1));
         e.finds("mid by " + c + " at " + place, Edge.UNLIKE, x -> x.mid(0, 0, 1));
       }
+    }
+  }
+
+  /** A ROW made anew is no longer than it is. */
+  private static void whatWasBehindIsGone(Due due) {
+    for (int n : new int[] {1, 6}) {
+      Edge e = Edge.ferryAnd(due, "p5550", x -> {
+        x.row(0, 7);
+        x.lay(0, n, 7);
+        x.row(0, n);
+        x.lay(0, n - 1, 1);
+      });
+      e.parts("odds by " + n + " ints that were 7", 3, 4, x -> x.odds(0, 0, 3));
+      e.parts("mid by " + n + " ints that were 7", 63, 4, x -> x.mid(0, 0, 3));
     }
   }
 

@@ -308,21 +308,30 @@ public final class EdgesOfDeedsTest {
     none.refused("keep(2) of no PASSENGERS", Edge.STATE, x -> x.keep(2));
   }
 
-  /** What is kept is not changed by what is done then. */
+  /** "(as it is, DEEDS)": what is kept, and what was ahead of its DEEDS, is not changed by what is done then. */
   private static void keepIsApart(Due due) {
     for (int k = 0; k <= 2; k++) {
       FerryChange x = Due.ferry("p5550 s9991");
+      x.set(0, 2, 0);
       x.cross(0, 1);
       x.keep(k);
-      long kept = x.digest();
-      x.cross(1, 2);
-      x.set(0, 2, 0);
+      // DEEDS of the other one, on the other BANK, in CROSSINGS of other numbers.
       x.undo(0);
       x.cross(1, 0);
+      x.cross(1, 2);
       x.lots(5, 3);
       due.is("one is kept", x.count(9), 1);
-      due.is("on(" + k + ")", x.on(k), 1);
-      due.is("as it was kept", x.digest() == kept ? 1 : 0, 1);
+      due.is("on(" + k + ")", x.on(k), 2);
+      due.is("LIFE and BANK as kept", Due.life(x, 0), 6501);
+      due.is("the other one as kept", Due.life(x, 1), 9991);
+      due.is("the next CROSSING as kept", x.count(1), 1);
+      due.is("undo(1)", x.undo(1), 1);
+      due.is("LIFE and BANK ahead of the last DEED", Due.life(x, 0), 5500);
+      due.is("CROSSING ahead of the last DEED", x.count(1), 0);
+      due.is("undo(0)", x.undo(0), 1);
+      due.is("LIFE and BANK at first", Due.life(x, 0), 5550);
+      due.is("the other one at first", Due.life(x, 1), 9991);
+      due.is("CROSSING at first", x.count(1), 0);
     }
   }
 

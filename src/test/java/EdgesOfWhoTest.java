@@ -15,6 +15,7 @@ public final class EdgesOfWhoTest {
     nextNone(due);
     pairsOfOtherSizes(due);
     pairsUnlike(due);
+    whatWasBehindIsGone(due);
     pairsRefused(due);
     due.end();
   }
@@ -254,6 +255,31 @@ public final class EdgesOfWhoTest {
     Edge ends = Edge.ferryAnd(due, "p9990", x -> Due.row(x, 0, 0, 27, 6, 27, 6, 0));
     ends.aside("0, 6 and 0, 27 are taken", 0, x -> x.kinds(0, 0));
     ends.refused("0, 6 and 0, 27 are taken by next", Edge.NONE, x -> x.next(0, 0));
+  }
+
+  /** A ROW made anew is no longer than it is: what it was beyond that is not looked at. */
+  private static void whatWasBehindIsGone(Due due) {
+    Edge e = Edge.ferryAnd(due, "p0000", x -> {
+      x.row(0, 40);
+      for (int k = 0; k < 40; k++) {
+        x.lay(0, k, 99);
+      }
+      x.row(0, 2);
+      x.row(1, 40);
+      for (int k = 0; k < 40; k++) {
+        x.lay(1, k, 99);
+      }
+      x.row(1, 3);
+    });
+    e.aside("kinds by 2 ints that were 40", 63, x -> x.kinds(0, 0));
+    e.told("next by 2 ints that were 40", 1, 2, x -> x.next(0, 0));
+    e.aside("declared by 3 ints that were 40", 1 + 4 + 16 + 64, x -> x.declared(0, 1));
+    Edge most = Edge.ferryAnd(due, "p0000", x -> {
+      x.row(0, 40);
+      x.lay(0, 16, 99);
+      x.row(0, 16);
+    });
+    most.aside("kinds by 16 ints that were 40", 63, x -> x.kinds(0, 0));
   }
 
   private static void pairsRefused(Due due) {
