@@ -64,37 +64,28 @@ final class Edge {
 
   /** BAD, FULL, STATE, or NONE: nothing is changed, neither finding() nor findings(). */
   void refused(String call, int answer, Call c) {
-    FerryChange x = fresh();
-    FerryChange twin = fresh();
-    due.is(call, c.on(x), answer);
-    findingsAre(call, x, twin, 0);
-    toldIsAlike(call, x, twin);
-    allIsAlike(call, x, twin);
+    aside(call, answer, c);
   }
 
   /** Nothing is changed but finding(), and one of findings() by 1. */
   void finds(String call, int finding, Call c) {
     FerryChange x = fresh();
     FerryChange twin = fresh();
-    due.is(call, c.on(x), FerryChange.FINDING);
-    findingsAre(call, x, twin, finding);
+    answers(call, x, twin, FerryChange.FINDING, c, finding);
     toldIsAlike(call, x, twin);
     allIsAlike(call, x, twin);
   }
 
+  /** It answers, and may change whatever it likes but finding() and findings(). */
   void taken(String call, long answer, Call c) {
-    FerryChange x = fresh();
-    FerryChange twin = fresh();
-    due.is(call, c.on(x), answer);
-    findingsAre(call, x, twin, 0);
+    answers(call, fresh(), fresh(), answer, c, 0);
   }
 
   /** It answers, tells nothing, and changes nothing. */
   void aside(String call, long answer, Call c) {
     FerryChange x = fresh();
     FerryChange twin = fresh();
-    due.is(call, c.on(x), answer);
-    findingsAre(call, x, twin, 0);
+    answers(call, x, twin, answer, c, 0);
     toldIsAlike(call, x, twin);
     allIsAlike(call, x, twin);
   }
@@ -103,9 +94,8 @@ final class Edge {
   void told(String call, long answer, long asked, Call c) {
     FerryChange x = fresh();
     FerryChange twin = fresh();
-    due.is(call, c.on(x), answer);
+    answers(call, x, twin, answer, c, 0);
     due.is(call + ": asked()", x.asked(), asked);
-    findingsAre(call, x, twin, 0);
     allIsAlike(call, x, twin);
   }
 
@@ -113,10 +103,9 @@ final class Edge {
   void parts(String call, long upper, long lower, Call c) {
     FerryChange x = fresh();
     FerryChange twin = fresh();
-    due.is(call, c.on(x), 1);
+    answers(call, x, twin, 1, c, 0);
     due.is(call + ": upper()", x.upper(), upper);
     due.is(call + ": lower()", x.lower(), lower);
-    findingsAre(call, x, twin, 0);
     allIsAlike(call, x, twin);
   }
 
@@ -126,7 +115,9 @@ final class Edge {
     return x;
   }
 
-  private void findingsAre(String call, FerryChange x, FerryChange twin, int finding) {
+  /** The answer, and by which FINDING (0: by none). */
+  private void answers(String call, FerryChange x, FerryChange twin, long answer, Call c, int finding) {
+    due.is(call, c.on(x), answer);
     due.is(call + ": finding()", x.finding(), finding == 0 ? twin.finding() : finding);
     for (int f = 1; f <= 5; f++) {
       due.is(call + ": findings(" + f + ")", x.findings(f), twin.findings(f) + (f == finding ? 1 : 0));
