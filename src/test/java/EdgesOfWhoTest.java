@@ -12,6 +12,7 @@ public final class EdgesOfWhoTest {
     kindsAllElseAsItIs(due);
     nextIsTheFirst(due);
     nextIsNow(due);
+    nextIsOneOfSeven(due);
     nextNone(due);
     pairsOfOtherSizes(due);
     pairsUnlike(due);
@@ -198,6 +199,16 @@ public final class EdgesOfWhoTest {
       Due.row(x, 0, 0, 15, 1, 17);
     });
     both.told("a BRIDE or a SAILOR, next in an odd CROSSING", 1, 1, x -> x.next(0, 0));
+  }
+
+  /** DECLARATIONS 0 .. 6, and no other: one of a THING behind 2 would tell these three apart. */
+  private static void nextIsOneOfSeven(Due due) {
+    Edge e = Edge.ferryAnd(due, "p8970p5550", x -> {
+      x.cross(1, 0);
+      Due.row(x, 0, 0, 24, 1, 24);
+    });
+    e.aside("a BRIDE, a WIDOWER or a SAILOR", 2 + 8 + 16, x -> x.kinds(0, 0));
+    e.told("next of these three", 1, 2, x -> x.next(0, 0));
   }
 
   /** "NONE: there is no KIND": and asked() stays. */
